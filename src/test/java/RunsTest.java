@@ -1,0 +1,53 @@
+import java.io.IOException;
+import java.nio.file.Files;
+import java.nio.file.Path;
+import java.util.List;
+import java.util.stream.Collectors;
+import java.util.stream.Stream;
+
+/** Makes every run of calls under src/test/runs and prints each call whose answer is not the one written behind it. */
+public final class RunsTest {
+    private static int right = 0;
+    private static int wrong = 0;
+
+    public static void main(String[] args) throws IOException {
+        List<Path> files;
+        try (Stream<Path> found = Files.list(Path.of(args.length > 0 ? args[0] : "src/test/runs"))) {
+            files = found.filter(p -> p.toString().endsWith(".txt")).sorted().collect(Collectors.toList());
+        }
+        for (Path file : files) {
+            makeRuns(file);
+        }
+        System.out.println(right + " answers as due, " + wrong + " not, in " + files.size() + " files");
+        if (wrong != 0 || right == 0) {
+            System.exit(1);
+        }
+    }
+
+    private static void makeRuns(Path file) throws IOException {
+        Calls calls = new Calls();
+        int number = 0;
+        for (String line : Files.readAllLines(file)) {
+            number++;
+            String row = line.strip();
+            if (row.equals("new")) {
+                calls.renew();
+            } else if (!row.isEmpty() && row.charAt(0) != '#') {
+                makeRow(calls, row, file.getFileName() + ":" + number);
+            }
+        }
+    }
+
+    private static void makeRow(Calls calls, String row, String where) {
+        int arrow = row.indexOf(" -> ");
+        String call = arrow < 0 ? row : row.substring(0, arrow).strip();
+        String due = arrow < 0 ? "ok" : row.substring(arrow + 4).strip();
+        String got = calls.answer(call);
+        if (got.equals(due)) {
+            right++;
+        } else {
+            wrong++;
+            System.out.println(where + ": " + call + " answered " + got + ", due is " + due);
+        }
+    }
+}
