@@ -390,7 +390,10 @@ public final class ExtVolume {
         }
     }
 
-    /** Blocks that are read as last written, of which only those outlive a loss of power that were flushed or that the fuse spares. */
+    /**
+     * Blocks that are read as last written; only those outlive a loss of power
+     * that were flushed or that the fuse's mask spares.
+     */
     private static final class Device {
         final int[] now = new int[BLOCKS * INTS];
         /** What would be left if power went now. */
@@ -454,7 +457,10 @@ public final class ExtVolume {
         }
     }
 
-    /** The image as a mounted volume has it, and what has happened to its blocks since the latest commit; sets of blocks have a bit for each. */
+    /**
+     * The image as a mounted volume has it, and what has happened to its blocks
+     * since the latest commit. A set of blocks is a long with a bit for each.
+     */
     private static final class Memory {
         final int[] image = new int[BLOCKS * INTS];
         long transaction;
@@ -882,9 +888,11 @@ public final class ExtVolume {
                 }
                 sum = addToSum(sum, device.now, Layout.placeAt(firstFree + k));
             }
-            int seal = Layout.placeAt(firstFree + n + 1);
-            boolean sealed = device.now[seal] == SEAL && device.now[seal + 1] == sequence && device.now[seal + 2] == sum;
-            return sealed ? n : 0;
+            return isSeal(Layout.placeAt(firstFree + n + 1), sum) ? n : 0;
+        }
+
+        private boolean isSeal(int at, int sum) {
+            return device.now[at] == SEAL && device.now[at + 1] == sequence && device.now[at + 2] == sum;
         }
 
         /** Where the k-th block (from 1 on) of the commit at the first free place belongs. */
@@ -943,7 +951,8 @@ public final class ExtVolume {
             int kind = Layout.kindOf(image, i);
             int size = Layout.sizeOf(image, i);
             if (kind == FREE) {
-                return image[at] == 0 && size == 0 && image[at + NUMBERS_WORD] == 0 && image[at + NUMBERS_WORD + 1] == 0;
+                return image[at] == 0 && size == 0
+                        && image[at + NUMBERS_WORD] == 0 && image[at + NUMBERS_WORD + 1] == 0;
             }
             if (kind > DIRECTORY || Layout.linksOf(image, i) == 0) {
                 return false;
