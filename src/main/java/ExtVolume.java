@@ -769,8 +769,10 @@ public final class ExtVolume {
             checkpoints++;
         }
 
+        /** Made anew each time, so that what else may have stood in it is 0, as in the image. */
         void putFirstBlock(int state) {
-            System.arraycopy(device.now, 0, buffer, 0, INTS);
+            Arrays.fill(buffer, 0);
+            buffer[0] = MAGIC;
             buffer[STATE_AT] = state;
             buffer[TAIL_AT] = sequence;
             buffer[START_AT] = firstFree;
