@@ -1,9 +1,19 @@
 /** Makes calls that are written as text, as the issues write them, and tells their answers as text. */
 final class Calls {
     private ExtVolume volume = new ExtVolume();
+    private final String[] marked = new String[48];
 
     void renew() {
         volume = new ExtVolume();
+    }
+
+    /** Makes the call of a row, "call -> answer" or a call alone; tells what is wrong with its answer, or nothing. */
+    String mistakeIn(String row) {
+        int arrow = row.indexOf(" -> ");
+        String call = arrow < 0 ? row : row.substring(0, arrow).strip();
+        String due = arrow < 0 ? "ok" : row.substring(arrow + 4).strip();
+        String got = answer(call);
+        return got.equals(due) ? "" : call + " answered " + got + ", due is " + due;
     }
 
     /** The answer, "ok" where there is none, or "throws." and the exception's name. */
@@ -38,6 +48,8 @@ final class Calls {
             case "block": return block(a[0]);
             case "checks": return checks();
             case "counts": return counts(a[0], a[1]);
+            case "nonzero": return nonzero();
+            case "changed": return changed();
             default: makeSilent(name, a); return "ok";
         }
     }
@@ -55,6 +67,7 @@ final class Calls {
             case "write": volume.write(a[0], a[1], a[2]); break;
             case "truncate": volume.truncate(a[0], a[1]); break;
             case "tamper": volume.tamper(a[0], a[1], a[2]); break;
+            case "mark": mark(); break;
             default: throw new AssertionError("no such call: " + name);
         }
     }
@@ -70,6 +83,31 @@ final class Calls {
             all.append(i == 0 ? "" : " ").append(volume.raw(b, i));
         }
         return all.toString();
+    }
+
+    /** The numbers of the blocks that have an int but 0. */
+    private String nonzero() {
+        StringBuilder found = new StringBuilder();
+        for (int b = 0; b < marked.length; b++) {
+            found.append(block(b).equals("0 0 0 0 0 0 0 0") ? "" : " " + b);
+        }
+        return found.length() == 0 ? "none" : found.substring(1);
+    }
+
+    /** Keeps what the device has, for changed(). */
+    private void mark() {
+        for (int b = 0; b < marked.length; b++) {
+            marked[b] = block(b);
+        }
+    }
+
+    /** The numbers of the blocks that aren't as they were at mark(). */
+    private String changed() {
+        StringBuilder found = new StringBuilder();
+        for (int b = 0; b < marked.length; b++) {
+            found.append(block(b).equals(marked[b]) ? "" : " " + b);
+        }
+        return found.length() == 0 ? "none" : found.substring(1);
     }
 
     /** check of all five passes. */

@@ -12,7 +12,7 @@ public final class RunsTest {
 
     public static void main(String[] args) throws IOException {
         List<Path> files;
-        try (Stream<Path> found = Files.list(Path.of(args.length > 0 ? args[0] : "src/test/runs"))) {
+        try (Stream<Path> found = Files.list(Path.of("src/test/runs"))) {
             files = found.filter(p -> p.toString().endsWith(".txt")).sorted().collect(Collectors.toList());
         }
         for (Path file : files) {
@@ -39,15 +39,12 @@ public final class RunsTest {
     }
 
     private static void makeRow(Calls calls, String row, String where) {
-        int arrow = row.indexOf(" -> ");
-        String call = arrow < 0 ? row : row.substring(0, arrow).strip();
-        String due = arrow < 0 ? "ok" : row.substring(arrow + 4).strip();
-        String got = calls.answer(call);
-        if (got.equals(due)) {
+        String mistake = calls.mistakeIn(row);
+        if (mistake.isEmpty()) {
             right++;
         } else {
             wrong++;
-            System.out.println(where + ": " + call + " answered " + got + ", due is " + due);
+            System.out.println(where + ": " + mistake);
         }
     }
 }
