@@ -398,7 +398,6 @@ public final class ExtVolume {
         final int[] now = new int[BLOCKS * INTS];
         /** What would be left if power went now. */
         final int[] afterLoss = new int[BLOCKS * INTS];
-        long unflushed;
         int writesSinceFlush;
         int writes;
         int flushes;
@@ -417,19 +416,14 @@ public final class ExtVolume {
             if (((fuseMask >>> (writesSinceFlush % 31)) & 1) != 0) {
                 System.arraycopy(from, at, afterLoss, b * INTS, INTS);
             }
-            unflushed |= 1L << b;
             writesSinceFlush++;
             writes++;
         }
 
         void flushAll() {
             spendAction();
-            for (int b = 0; b < BLOCKS; b++) {
-                if (Layout.holds(unflushed, b)) {
-                    System.arraycopy(now, b * INTS, afterLoss, b * INTS, INTS);
-                }
-            }
-            endUnflushed();
+            System.arraycopy(now, 0, afterLoss, 0, BLOCKS * INTS);
+            writesSinceFlush = 0;
             flushes++;
         }
 
@@ -441,7 +435,7 @@ public final class ExtVolume {
         private void spendAction() {
             if (fuseLeft == 0) {
                 System.arraycopy(afterLoss, 0, now, 0, BLOCKS * INTS);
-                endUnflushed();
+                writesSinceFlush = 0;
                 fuseLeft = NO_FUSE;
                 mounted = false;
                 throw new ArithmeticException("power is gone");
@@ -449,11 +443,6 @@ public final class ExtVolume {
             if (fuseLeft > 0) {
                 fuseLeft--;
             }
-        }
-
-        private void endUnflushed() {
-            unflushed = 0;
-            writesSinceFlush = 0;
         }
     }
 
