@@ -1,13 +1,16 @@
+import java.io.IOException;
 import java.lang.reflect.Constructor;
 import java.lang.reflect.Field;
 import java.lang.reflect.Method;
 import java.lang.reflect.Modifier;
+import java.nio.file.Files;
+import java.nio.file.Path;
 import java.util.ArrayList;
 import java.util.Arrays;
 import java.util.List;
 import java.util.stream.Collectors;
 
-/** The class has the document's face and no other member that can be seen. */
+/** The class has the document's face and no other member that can be seen; README.md tells this face. */
 public final class FaceTest {
     private static final List<String> FACE = List.of(
             "void format() IllegalStateException ArithmeticException",
@@ -30,7 +33,7 @@ public final class FaceTest {
             "int check(int) IllegalArgumentException IllegalStateException",
             "int count(int)");
 
-    public static void main(String[] args) {
+    public static void main(String[] args) throws IOException {
         List<String> faults = new ArrayList<>();
         if (!Modifier.isPublic(ExtVolume.class.getModifiers()) || !Modifier.isFinal(ExtVolume.class.getModifiers())) {
             faults.add("the class isn't public and final");
@@ -54,11 +57,19 @@ public final class FaceTest {
         if (constructors.length != 1 || constructors[0].getParameterCount() != 0) {
             faults.add("not just the one constructor");
         }
+        if (!Files.readString(Path.of("README.md")).contains(faceIn(Files.readString(Path.of("../shared/DOC.md"))))) {
+            faults.add("README.md has another face than the document");
+        }
         faults.forEach(System.out::println);
         System.out.println(faults.size() + " faults of the face");
         if (!faults.isEmpty()) {
             System.exit(1);
         }
+    }
+
+    private static String faceIn(String document) {
+        int from = document.indexOf("```java");
+        return document.substring(from, document.indexOf("}\n```", from));
     }
 
     private static String describe(Method method) {
